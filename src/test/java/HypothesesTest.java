@@ -14,6 +14,7 @@ public final class HypothesesTest {
         planValue();
         planFirst();
         planOfGreatWeights();
+        planOfAllTests();
         example();
         CHECK.finish();
     }
@@ -30,11 +31,13 @@ public final class HypothesesTest {
         TripodScale t = new TripodScale();
         t.addTest();
         t.setChances(0, 1, 3, 4);
+        t.setWeight(0, 5);
         t.setWeight(1, 9);
         CHECK.badArgument("setHypotheses(0)", t, () -> t.setHypotheses(0));
         CHECK.badArgument("setHypotheses(9)", t, () -> t.setHypotheses(9));
         CHECK.badArgument("setHypotheses(-1)", t, () -> t.setHypotheses(-1));
         CHECK.due("setHypotheses(8)", t.setHypotheses(8), 2);
+        oddsDue(t, 0, 1, 8);
         oddsDue(t, 1, 1, 8);
         oddsDue(t, 7, 1, 8);
         CHECK.badState("chances are 0, 0 and 10 again", t, () -> t.observe(0, 0));
@@ -267,6 +270,32 @@ public final class HypothesesTest {
         valueDue(t, 1, 3000000000000000L, 6000000000000001L);
         // Test 1 thrice splits hypothesis 3 from 1 and 2 in 3 cases of 4; test 0 twice finds hypothesis 7 in 99 of 100.
         valueDue(t, 3, 375000000000000099L, 600000000000000100L);
+    }
+
+    /** Test i finds hypothesis i; eight hypotheses and ten tests are the most. */
+    private static void planOfAllTests() {
+        TripodScale t = new TripodScale();
+        t.setHypotheses(8);
+        for (int i = 0; i < 10; i++) {
+            t.addTest();
+            t.setChances(i, i % 8, 0, 10);
+        }
+        valueDue(t, 1, 1, 4);
+        valueDue(t, 2, 3, 8);
+        valueDue(t, 3, 1, 2);
+        CHECK.due("planFirst(3)", t.planFirst(3), 0);
+        for (int i = 0; i < 8; i++) {
+            t.setChances(9, i, i < 3 ? 10 : 0, i < 6 ? 0 : 10);
+        }
+        valueDue(t, 1, 3, 8);
+        CHECK.due("the last test of ten", t.planFirst(1), 9);
+        t.setWeight(7, 0);
+        CHECK.due("observe of the last test", t.observe(9, 1), 6);
+        oddsDue(t, 6, 1, 1);
+        oddsDue(t, 7, 0, 1);
+        CHECK.badState("the last weight of eight", t, () -> t.setWeight(6, 0));
+        CHECK.due("setHypotheses with ten tests", t.setHypotheses(8), 8);
+        CHECK.badState("the chances of the last test", t, () -> t.observe(9, 1));
     }
 
     private static void example() {

@@ -6,6 +6,7 @@ public final class StateTest {
         undo();
         oldestIsDropped();
         undoBringsEverythingBack();
+        undoOfReplacements();
         readingsAreNotSaved();
         digestOfNewObject();
         digestOfAll();
@@ -39,13 +40,14 @@ public final class StateTest {
         CHECK.due("load after undo", t.load(0, 0), 3);
     }
 
+    /** Without older saved states the undo can only bring back what the call itself has saved. */
     private static void undoBringsEverythingBack() {
         TripodScale t = new TripodScale();
         fill(t);
+        for (int i = 0; i < 4; i++) {
+            t.undo();
+        }
         long before = t.digest();
-        TripodScale same = new TripodScale();
-        fill(same);
-        CHECK.due("the same calls, the same digest", same.digest(), before);
         t.setCell(2, 3, 90, 77);
         back(t, before, "setCell");
         t.place(1, 2, 3);
@@ -70,12 +72,39 @@ public final class StateTest {
         back(t, before, "clearSessions");
     }
 
-    /** A fourth saved state gave way to the call's own, so three remain after the undo. */
     private static void back(TripodScale t, long before, String call) {
-        CHECK.due("digest after " + call, t.digest() != before, true);
-        CHECK.due("undo of " + call, t.undo(), 3);
-        t.setCell(0, 0, 0, 4000);
+        CHECK.due("digest changes by " + call, t.digest() != before, true);
+        CHECK.due("undo of " + call, t.undo(), 0);
         CHECK.due("digest after the undo of " + call, t.digest(), before);
+    }
+
+    /** What came in the place of something is taken away again. */
+    private static void undoOfReplacements() {
+        TripodScale t = new TripodScale();
+        t.addSupporter(50, 7);
+        t.addSession(40, 2);
+        long before = t.digest();
+        t.clearSessions();
+        t.addSupporter(60, 5);
+        t.addSession(70, 9);
+        CHECK.due("undo", t.undo(), 3);
+        CHECK.due("undo", t.undo(), 2);
+        CHECK.due("undo of clearSessions", t.undo(), 1);
+        CHECK.due("digest, with one saved state fewer: the oldest was dropped", t.digest(), before - 1);
+        TripodScale u = new TripodScale();
+        u.place(10, 20, 30);
+        before = u.digest();
+        u.lift(0);
+        u.place(1, 2, 3);
+        u.undo();
+        CHECK.due("undo of lift", u.undo(), 1);
+        CHECK.due("digest after the undo of lift", u.digest(), before);
+        u.addTest();
+        u.setChances(0, 0, 1, 2);
+        before = u.digest();
+        u.setHypotheses(3);
+        u.undo();
+        CHECK.due("digest after the undo of setHypotheses", u.digest(), before);
     }
 
     private static void fill(TripodScale t) {

@@ -79,6 +79,7 @@ public final class SupportersTest {
         t.addSession(10, 23);
         takersDue(t, 0);
         t.undo();
+        takersDue(t);
         t.addSession(10, 0);
         takersDue(t, 0);
         t.undo();
@@ -132,6 +133,9 @@ public final class SupportersTest {
             t.addSession(100, 23 - i);
         }
         takersDue(t, 0, 1, 2, 3, 4, 5, 6, 7);
+        t.undo();
+        t.addSession(101, 0);
+        takersDue(t, 0, 1, 2, 3, 4, 5, 6, -1);
     }
 
     private static void example() {
