@@ -4,19 +4,33 @@ final class Check {
         long answer();
     }
 
+    private String about = "";
     private int asked = 0;
     private int wrong = 0;
+
+    /** What the answers that follow are about; it is told with each wrong one. */
+    void about(String words) {
+        about = words + ": ";
+    }
+
+    int asked() {
+        return asked;
+    }
 
     void due(String what, long got, long want) {
         asked++;
         if (got != want) {
-            wrong++;
-            System.out.println(what + " answered " + got + ", due is " + want);
+            fail(what + " answered " + got + ", due is " + want);
         }
     }
 
     void due(String what, boolean got, boolean want) {
         due(what, got ? 1 : 0, want ? 1 : 0);
+    }
+
+    void fail(String what) {
+        wrong++;
+        System.out.println(about + what);
     }
 
     void outOfBounds(String what, TripodScale scale, Call call) {
@@ -42,8 +56,7 @@ final class Check {
             got = e.getClass() == want ? "" : "threw " + e;
         }
         if (!got.isEmpty()) {
-            wrong++;
-            System.out.println(what + " " + got + ", due is " + want.getName());
+            fail(what + " " + got + ", due is " + want.getName());
         }
         due(what + ": digest afterwards", scale.digest(), before);
     }
