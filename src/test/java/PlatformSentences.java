@@ -546,6 +546,7 @@ final class PlatformSentences {
         sentences.says("Returns the greatest whole number of this kind, 0 or more; NONE if the platform is not stable or a cell"
                 + " is overloaded already.", () -> {
             check.due("a cell at its capacity", justNotOverloaded().room(WIDE[2][0], WIDE[2][1]), 0);
+            check.due("a cell at its capacity, to be loaded by 1/39999", justNotOverloaded().room(BARELY_INSIDE[0], BARELY_INSIDE[1]), 0);
             check.due("a fraction above it", barelyOverloaded().room(WIDE[2][0], WIDE[2][1]), -1);
             check.due("a cell with no load, to be lifted", justStable().room(BARELY_OUTSIDE[0], BARELY_OUTSIDE[1]), 0);
             check.due("a load of -1/39999", barelyUnstable().room(0, 0), -1);

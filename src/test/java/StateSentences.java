@@ -164,17 +164,18 @@ final class StateSentences {
             atMostFour();
         });
         sentences.says("The saved state contains everything.", () -> {
-            for (Scales.Maker maker : new Scales.Maker[] {ALL, Scales::withGreatestWeight}) {
-                List<Long> before = answers(maker.make());
-                TripodScale t = maker.make();
-                t.clearSessions();
-                t.setHypotheses(1);
-                t.setCell(1, 90, -90, 3);
-                t.place(-100, -100, 1000);
-                for (int i = 0; i < 4; i++) {
-                    t.undo();
-                }
-                check.due("the answers after four undos are those from before", answers(t).equals(before), true);
+            for (Scales.Maker maker : new Scales.Maker[] {ALL, Scales::full, Scales::withGreatestWeight}) {
+                backAfter("all at once", maker, t -> t.clearSessions() + t.setHypotheses(1) + t.setCell(1, 90, -90, 3)
+                        + t.setWeight(0, 9));
+                backAfter("other supporters and sessions", maker, t -> t.clearSessions() + t.addSupporter(99, 3)
+                        + t.addSession(2, 1) + t.addSupporter(1, 2));
+                backAfter("another test's chances", maker, t -> t.setChances(0, 0, 0, 10) + t.setChances(0, 1, 10, 0)
+                        + t.setHypotheses(8) + t.setChances(0, 7, 5, 5));
+                backAfter("other cells", maker, t -> t.setCell(0, -90, -80, 1) + t.setCell(1, 80, -90, 2)
+                        + t.setCell(2, 70, 60, 3) + t.setCell(0, 1, 2, 4));
+            }
+            for (Scales.Maker maker : new Scales.Maker[] {ALL, Scales::full}) {
+                backAfter("other objects", maker, t -> t.lift(0) + t.lift(1) + t.place(-100, -100, 1000) + t.place(100, 100, 1));
             }
             undoables().forEach((name, act) -> {
                 TripodScale t = done(ALL, act);
@@ -183,6 +184,14 @@ final class StateSentences {
                 check.due("weights, objects and numbers after the undo of " + name, taken(t).equals(taken(ALL.make())), true);
             });
         });
+    }
+
+    /** Four calls, which the undos take back one after the other. */
+    private void backAfter(String what, Scales.Maker maker, Probe.Act calls) {
+        TripodScale t = undone(done(maker, calls), 4);
+        check.due("the answers after " + what + " and four undos", answers(t).equals(answers(maker.make())), true);
+        check.due("the state after " + what + " and four undos", Probe.states(t).get(0).equals(Probe.states(maker.make()).get(0)), true);
+        check.due("what was told by the changing calls too", taken(undone(done(maker, calls), 4)).equals(taken(maker.make())), true);
     }
 
     private static TripodScale done(Scales.Maker maker, Probe.Act act) {
@@ -194,19 +203,19 @@ final class StateSentences {
     /** What is told only by calls that change the object: capacities, weights, the numbers of all things. */
     private static List<Long> taken(TripodScale t) {
         List<Long> answers = new ArrayList<>();
-        answers.add((long) t.setCell(0, 5, -50, 1));
-        answers.add((long) t.setCell(1, 60, 1, 1));
-        answers.add((long) t.setCell(2, 2, 60, 1));
-        answers.add(t.setWeight(0, 1));
-        answers.add(t.setWeight(1, 1));
-        answers.add((long) t.addTest());
-        answers.add((long) t.observe(0, 2));
-        answers.add((long) t.setHypotheses(4));
-        answers.add((long) t.addSupporter(1, 1));
-        answers.add((long) t.addSession(1, 1));
-        answers.add((long) t.place(1, 1, 1));
-        answers.add((long) t.lift(0));
-        answers.add((long) t.lift(0));
+        answers.add(orMinus2(() -> t.setCell(0, 5, -50, 1)));
+        answers.add(orMinus2(() -> t.setCell(1, 60, 1, 1)));
+        answers.add(orMinus2(() -> t.setCell(2, 2, 60, 1)));
+        answers.add(orMinus2(() -> t.setWeight(0, 1)));
+        answers.add(orMinus2(() -> t.setWeight(1, 1)));
+        answers.add(orMinus2(() -> t.addTest()));
+        answers.add(orMinus2(() -> t.observe(0, 2)));
+        answers.add(orMinus2(() -> t.setHypotheses(4)));
+        answers.add(orMinus2(() -> t.addSupporter(1, 1)));
+        answers.add(orMinus2(() -> t.addSession(1, 1)));
+        answers.add(orMinus2(() -> t.place(1, 1, 1)));
+        answers.add(orMinus2(() -> t.lift(0)));
+        answers.add(orMinus2(() -> t.lift(0)));
         return answers;
     }
 

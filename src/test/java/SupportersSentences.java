@@ -262,6 +262,11 @@ final class SupportersSentences {
         sentences.says("Returns the number of sessions that the assignment covers.", () -> {
             check.due("where the first choice would block", with(new int[][] {{50, 7}, {30, 1}},
                     new int[][] {{20, 0}, {40, 1}}).covered(), 2);
+            TripodScale fewer = equal(2, 3);
+            check.due("of two for three", fewer.covered(), 2);
+            fewer.undo();
+            fewer.undo();
+            check.due("of two for one, after undos", fewer.covered(), 1);
             check.due("of one for three", with(new int[][] {{9, 1}}, new int[][] {{9, 0}, {9, 0}, {9, 0}}).covered(), 1);
         });
         sentences.says("Returns the number of sessions.", () -> {
