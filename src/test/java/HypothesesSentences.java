@@ -410,7 +410,8 @@ final class HypothesesSentences {
         });
         sentences.says("`weight`: 0 to 1000000", () -> {
             probe.range(0, 1000000, TripodScale::new, (t, weight) -> t.setWeight(1, weight));
-            probe.range(1, 1000000, () -> Scales.withHypotheses(1), (t, weight) -> t.setWeight(0, weight == 0 ? -1 : weight));
+            probe.takes("1 for the only hypothesis", () -> Scales.withHypotheses(1), t -> t.setWeight(0, 1));
+            weightsDue(Scales.withWeights(0, 1000000), 0, 1000000);
         });
         sentences.says("Returns the previous weight.", () -> {
             TripodScale t = Scales.withGreatestWeight();
