@@ -394,18 +394,15 @@ public final class TripodScale {
             return (long) (cellX[next] - x) * (cellY[last] - y) - (long) (cellX[last] - x) * (cellY[next] - y);
         }
 
-        private long signedAreaOfCells() {
-            return signedArea(0, cellX[0], cellY[0]);
-        }
-
-        private long denominator() {
-            return Math.abs(signedAreaOfCells());
-        }
-
         /** The numerator of the load that a weight of 1 at the place puts on the cell. */
         private long share(int cell, int x, int y) {
             long area = signedArea(cell, x, y);
-            return signedAreaOfCells() < 0 ? -area : area;
+            return signedArea(0, cellX[0], cellY[0]) < 0 ? -area : area;
+        }
+
+        /** A weight at a cell's own place loads that cell with all of it. */
+        private long denominator() {
+            return share(0, cellX[0], cellY[0]);
         }
 
         private long numerator(int cell) {
@@ -453,8 +450,8 @@ public final class TripodScale {
             if (!hasNoNegativeLoad() || overloadedCells() != 0) {
                 return NONE;
             }
-            // The shares have a sum above 0, so one cell at least sets a bound.
-            long greatest = Integer.MAX_VALUE;
+            // The loads of the cells have the sum of all weights, so no more than this is ever borne.
+            long greatest = CELLS * MAX_CAPACITY;
             for (int cell = 0; cell < CELLS; cell++) {
                 long share = share(cell, x, y);
                 if (share > 0) {

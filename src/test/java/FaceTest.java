@@ -10,6 +10,8 @@ import java.nio.file.Path;
 import java.util.Arrays;
 import java.util.Set;
 import java.util.TreeSet;
+import java.util.regex.Matcher;
+import java.util.regex.Pattern;
 
 /** The class has the document's face and nothing else, and its source keeps to what can be seen of LANGUAGE.md. */
 public final class FaceTest {
@@ -45,6 +47,11 @@ public final class FaceTest {
         "long digest 0"};
     private static final String[] NOT_IN_THE_LANGUAGE = {"import ", "package ", "->", "::", "try ", "catch", "finally",
         "synchronized", "assert ", "instanceof", "Exact(", "System.out", "System.in", "Random", "getClass"};
+
+    // What the program may take from the library: functions over int and long alone, none that throws by itself.
+    private static final Pattern LIBRARY = Pattern.compile("\\b((?:Integer|Long|Math|System|Arrays|String|List|Double|Float)\\s*\\.\\s*\\w+)\\W");
+    private static final Set<String> IN_THE_LANGUAGE = Set.of("Math.abs", "Math.max", "Math.min", "Math.floorDiv", "System.arraycopy");
+    private static final Pattern METHOD = Pattern.compile("((?: {4}){1,2})(?!.*\\bclass\\b)\\w.*\\) (?:throws .*)?\\{");
 
     public static void main(String[] args) throws IOException {
         face();
@@ -127,6 +134,26 @@ public final class FaceTest {
             CHECK.due("the source holds \"" + words + "\"", source.contains(words), false);
         }
         CHECK.due("all signs are 1 to 127", source.chars().allMatch(c -> c >= 1 && c <= 127), true);
+        CHECK.due("no texts are joined by +", source.matches("(?s).*(\"\\s*\\+|\\+\\s*\").*"), false);
+        Matcher use = LIBRARY.matcher(source);
+        while (use.find()) {
+            CHECK.due("the language has " + use.group(), IN_THE_LANGUAGE.contains(use.group(1)), true);
+        }
+        shortMethods(source.split("\n"));
+    }
+
+    /** A method ends at the next line that closes a brace at the depth at which it began. */
+    private static void shortMethods(String[] lines) {
+        for (int i = 0; i < lines.length; i++) {
+            Matcher head = METHOD.matcher(lines[i]);
+            if (head.matches()) {
+                int end = i;
+                while (end < lines.length && !lines[end].equals(head.group(1) + "}")) {
+                    end++;
+                }
+                CHECK.due("a short method: " + lines[i].trim(), end - i <= 60, true);
+            }
+        }
     }
 
     private static void same(String what, Set<String> got, Set<String> want) {
